@@ -35,7 +35,7 @@ public final class SchemaSubjects {
     // A schema's place in this list is its number; it stays when its versions are deleted.
     private final ArrayList<Schema> numbered;
     private Schema draft;
-    private Row record;
+    private Row recordDraft;
     private Row spare;
     private final Row trial;
 
@@ -46,7 +46,7 @@ public final class SchemaSubjects {
         }
         numbered = new ArrayList<>();
         draft = new Schema();
-        record = new Row();
+        recordDraft = new Row();
         spare = new Row();
         trial = new Row();
     }
@@ -193,16 +193,16 @@ public final class SchemaSubjects {
     // ---- a record
 
     public int value(int value) throws IllegalStateException {
-        if (record.count() >= NUMBERS) {
+        if (recordDraft.count() >= NUMBERS) {
             throw new IllegalStateException("the record is full");
         }
-        record.add(value);
-        return record.count();
+        recordDraft.add(value);
+        return recordDraft.count();
     }
 
     public int clear() {
-        int had = record.count();
-        record.empty();
+        int had = recordDraft.count();
+        recordDraft.empty();
         return had;
     }
 
@@ -217,20 +217,20 @@ public final class SchemaSubjects {
         Schema written = demandedSchema(writer, writerVersion);
         // What is read goes to the spare row first: a reading that fails leaves the draft as it was.
         spare.empty();
-        if (!isRecordOf(written) || !readSchema(reading, written, record, 0, spare, 0)) {
+        if (!isRecordOf(written) || !readSchema(reading, written, recordDraft, 0, spare, 0)) {
             throw new IllegalStateException("no record of the writer, or one that cannot be read");
         }
-        Row before = record;
-        record = spare;
+        Row before = recordDraft;
+        recordDraft = spare;
         spare = before;
-        return record.count();
+        return recordDraft.count();
     }
 
     public int valueAt(int place) throws IndexOutOfBoundsException {
-        if (place < 0 || place >= record.count()) {
+        if (place < 0 || place >= recordDraft.count()) {
             throw new IndexOutOfBoundsException("no such place");
         }
-        return record.at(place);
+        return recordDraft.at(place);
     }
 
     // ---- what the calls demand
@@ -361,11 +361,11 @@ public final class SchemaSubjects {
     // ---- reading a record
 
     private boolean isRecordOf(Schema schema) {
-        if (record.count() != schema.places.count()) {
+        if (recordDraft.count() != schema.places.count()) {
             return false;
         }
-        for (int i = 0; i < record.count(); i++) {
-            if (!isOfSize(record.at(i), schema.places.at(i))) {
+        for (int i = 0; i < recordDraft.count(); i++) {
+            if (!isOfSize(recordDraft.at(i), schema.places.at(i))) {
                 return false;
             }
         }
