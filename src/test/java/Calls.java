@@ -1,15 +1,28 @@
+import java.util.Arrays;
 import java.util.Set;
 
 /** Calls of a registry told as texts, and their answers told as texts: a number, true or false, or throws.X. */
 final class Calls {
+    /** The calls that only ask, and change nothing even if they are not refused. */
+    static final Set<String> ASKING = Set.of("isAccepted", "versions", "number", "isThere", "length", "canRead",
+            "readsAll", "isRecord", "valueAt");
+
     private static final Set<String> OWN =
             Set.of("IllegalArgumentException", "IndexOutOfBoundsException", "IllegalStateException");
+
+    /** A call; a flag is told as 0 or 1. */
+    record Call(String name, int... arguments) {
+        @Override
+        public String toString() {
+            return name + Arrays.toString(arguments).replace('[', '(').replace(']', ')');
+        }
+    }
 
     private Calls() {
     }
 
-    /** Carries out a call written as in Java, such as delete(0, 2, true). */
-    static String answer(SchemaSubjects x, String call) {
+    /** A call written as in Java, such as delete(0, 2, true). */
+    static Call told(String call) {
         int open = call.indexOf('(');
         int close = call.lastIndexOf(')');
         String inside = call.substring(open + 1, close).trim();
@@ -18,7 +31,11 @@ final class Calls {
         for (int i = 0; i < words.length; i++) {
             a[i] = number(words[i]);
         }
-        return answer(x, call.substring(0, open).trim(), a);
+        return new Call(call.substring(0, open).trim(), a);
+    }
+
+    static String answer(SchemaSubjects x, Call call) {
+        return answer(x, call.name(), call.arguments());
     }
 
     static String answer(SchemaSubjects x, String name, int[] a) {
