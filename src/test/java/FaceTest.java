@@ -42,10 +42,17 @@ public final class FaceTest {
 
     private static final String[] FORBIDDEN = {
         "->", "::", "\\bfinally\\b", "\\bsynchronized\\b", "\\bassert\\b", "\\bhashCode\\b", "Exact\\(",
-        "\\bSystem\\.(?!arraycopy)", "^package\\b",
+        "\\bSystem\\.(?!arraycopy)", "^package\\b", "\\bstatic \\{", "\\btry \\(", "\" \\+", "\\+ \"",
         "catch \\([^)]*\\b(Throwable|Exception|Error|RuntimeException|ArrayIndexOutOfBoundsException"
             + "|NullPointerException|ClassCastException|NegativeArraySizeException|ArrayStoreException)\\b",
     };
+
+    private static final Set<String> KINDS =
+            Set.of("int", "long", "boolean", "char", "String", "int[]", "long[]", "char[]", "byte[]");
+
+    // The class's own and those of the library that it uses; each of these stands in LANGUAGE.md.
+    private static final Set<String> TYPES = Set.of("SchemaSubjects", "Row", "Field", "Schema", "Version", "Subject",
+            "ArrayList", "IllegalArgumentException", "IndexOutOfBoundsException", "IllegalStateException");
 
     private static int wrong = 0;
 
@@ -62,7 +69,13 @@ public final class FaceTest {
             checkPrivateNames(face, inside);
             checkFields(inside);
         }
-        checkText(Files.readString(Path.of(args[0])));
+        check(face.getDeclaredClasses().length < 12, "the file has at most twelve classes");
+        String text = Files.readString(Path.of(args[0]));
+        String document = Files.readString(Path.of(args[1]));
+        checkText(text);
+        checkLengths(text);
+        checkPrinted(text, document);
+        checkHeadings(text, document);
         if (wrong != 0) {
             System.exit(1);
         }
@@ -125,13 +138,18 @@ public final class FaceTest {
             int m = f.getModifiers();
             check(inside != SchemaSubjects.class || Modifier.isPrivate(m), f + " is private");
             check(!Modifier.isStatic(m) || Modifier.isFinal(m), f + " is final, being static");
+            check(!Modifier.isStatic(m) || KINDS.contains(f.getType().getSimpleName()), f + " is a constant");
             own += Modifier.isStatic(m) ? 0 : 1;
         }
         check(own <= 20, inside + " has at most twenty fields");
     }
 
+    private static String codeOf(String text) {
+        return text.replaceAll("(?s)/\\*.*?\\*/", "").replaceAll("//[^\n]*", "").replaceAll("\"[^\"\n]*\"", "\"\"");
+    }
+
     private static void checkText(String text) {
-        String code = text.replaceAll("(?s)/\\*.*?\\*/", "").replaceAll("//[^\n]*", "").replaceAll("\"[^\"\n]*\"", "\"\"");
+        String code = codeOf(text);
         for (String sign : FORBIDDEN) {
             Matcher m = Pattern.compile(sign, Pattern.MULTILINE).matcher(code);
             check(!m.find(), "the text is without " + sign);
@@ -141,6 +159,57 @@ public final class FaceTest {
             check(Set.of("java.util.ArrayList", "java.util.List", "java.util.Arrays").contains(imports.group(1)),
                     "the import of " + imports.group(1) + " is on the list");
         }
+        Matcher types = Pattern.compile("\\b[A-Z]\\w*[a-z]\\w*").matcher(code);
+        while (types.find()) {
+            check(TYPES.contains(types.group()), types.group() + " is a type that the class may use");
+        }
         check(text.chars().allMatch(c -> c == '\n' || c >= 32 && c < 127), "the text is plain ASCII");
+    }
+
+    // A method begins at four or eight blanks and ends with a brace alone behind as many.
+    private static void checkLengths(String text) {
+        String[] lines = text.split("\n");
+        for (int i = 0; i < lines.length; i++) {
+            Matcher m = Pattern.compile("( {4}| {8})[a-zA-Z].*\\([^;]*").matcher(lines[i]);
+            int end = i;
+            while (m.matches() && end < lines.length && !lines[end].equals(m.group(1) + "}")) {
+                end++;
+            }
+            check(end - i <= 60, "the method in line " + (i + 1) + " is short");
+        }
+    }
+
+    /** The face as the document prints it, with the names of what is told, in its order, and nothing more. */
+    private static void checkPrinted(String text, String document) {
+        String code = codeOf(text).replaceAll("\\s+", " ");
+        String printed = document.substring(document.indexOf("```java"), document.lastIndexOf("```"));
+        int from = 0;
+        int told = 0;
+        for (String line : printed.split("\n")) {
+            String sign = line.trim().replaceAll("( \\{|;)$", "");
+            if (sign.startsWith("public ")) {
+                int at = code.indexOf(sign + " {", from);
+                check(at >= 0, "the class has, in the document's order, " + sign);
+                from = Math.max(from, at);
+                told++;
+            }
+        }
+        check(told > 1 && code.split("\\bpublic\\b").length - 1 == told, "the class has " + told + " public signs");
+    }
+
+    /** "Ahead of the calls .. the interface says: ---- .." */
+    private static void checkHeadings(String text, String document) {
+        Matcher said = Pattern.compile("Ahead of the calls (.*) the interface says: (---- .*)\\.\n").matcher(document);
+        int told = 0;
+        while (said.find()) {
+            for (String call : said.group(1).split(", ")) {
+                told++;
+                Matcher m = Pattern.compile("public \\w+ " + call.replace("`", "") + "\\(").matcher(text);
+                String ahead = m.find() ? text.substring(0, m.start()) : "";
+                int last = ahead.lastIndexOf("---- ");
+                check(last >= 0 && ahead.startsWith(said.group(2) + "\n", last), said.group(2) + " is ahead of " + call);
+            }
+        }
+        check(told == FACE.length, "each call has a heading");
     }
 }
